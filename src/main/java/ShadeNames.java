@@ -288,7 +288,7 @@ public final class ShadeNames {
         if (!among(shade, Shade.ALL) || !among(other, Shade.ALL)) {
             return BAD;
         }
-        return Shade.between(shade, other);
+        return farApart(shade, other);
     }
 
     public int called(int shade) {
@@ -343,7 +343,7 @@ public final class ShadeNames {
         }
         int dues = 0;
         for (int i = 0; i < rows[r].size; i++) {
-            dues += duesFor(person, rows[r].places[i]);
+            dues += (OWNERS - 1) * names.owedTo(person, rows[r].places[i]);
         }
         return dues;
     }
@@ -449,7 +449,7 @@ public final class ShadeNames {
         if (refusal != FINE) {
             return refusal;
         }
-        int far = Shade.between(shade, other);
+        int far = farApart(shade, other);
         int alike = 0;
         for (int i = 0; i < rows[r].size; i++) {
             alike += saysAlike(rows[r].places[i], far);
@@ -751,15 +751,9 @@ public final class ShadeNames {
         return true;
     }
 
-    private int duesFor(int person, int shade) {
-        if (names.ownerOf(shade, 0) != person) {
-            return 0;
-        }
-        int dues = 0;
-        for (int other = 0; other < OWNERS; other++) {
-            dues += names.owedBy(other, shade);
-        }
-        return dues;
+    /** Shades alone are as far apart as a plain name is from a shade. */
+    private static int farApart(int shade, int other) {
+        return Kind.farFrom(Kind.NAME, shade, other);
     }
 
     private static int eyesSayingAlike(int far) {
@@ -773,7 +767,7 @@ public final class ShadeNames {
     private static int eyesLeftBy(Row sayings) {
         int left = ALL_EYES;
         for (int i = 0; i + 2 < sayings.size; i += 3) {
-            int alike = eyesSayingAlike(Shade.between(sayings.places[i], sayings.places[i + 1]));
+            int alike = eyesSayingAlike(farApart(sayings.places[i], sayings.places[i + 1]));
             left &= sayings.places[i + 2] == 1 ? alike : ~alike;
         }
         return left;
@@ -841,22 +835,6 @@ public final class ShadeNames {
             return shade % 6;
         }
 
-        static int betweenA(int shade, int other) {
-            return Math.abs(partA(shade) - partA(other));
-        }
-
-        static int betweenB(int shade, int other) {
-            return Math.abs(partB(shade) - partB(other));
-        }
-
-        static int betweenC(int shade, int other) {
-            return Math.abs(partC(shade) - partC(other));
-        }
-
-        static int between(int shade, int other) {
-            return betweenA(shade, other) + betweenB(shade, other) + betweenC(shade, other);
-        }
-
         static int mixed(int shade, int other) {
             return of((partA(shade) + partA(other)) / 2,
                     (partB(shade) + partB(other)) / 2,
@@ -898,9 +876,9 @@ public final class ShadeNames {
         }
 
         static int farFrom(int kind, int own, int shade) {
-            int a = Shade.betweenA(own, shade);
-            int b = Shade.betweenB(own, shade);
-            int c = Shade.betweenC(own, shade);
+            int a = Math.abs(Shade.partA(own) - Shade.partA(shade));
+            int b = Math.abs(Shade.partB(own) - Shade.partB(shade));
+            int c = Math.abs(Shade.partC(own) - Shade.partC(shade));
             switch (kind) {
                 case WIDE:
                     return Math.max(a, Math.max(b, c));
@@ -941,7 +919,11 @@ public final class ShadeNames {
         int dues;
         boolean fades;
 
-        void become(Name other) {
+        int owed() {
+            return kind == Kind.POETS ? 0 : dues;
+        }
+
+        void takeFrom(Name other) {
             kind = other.kind;
             origin = other.origin;
             range = other.range;
@@ -981,7 +963,7 @@ public final class ShadeNames {
             deeds = other.deeds;
             years = other.years;
             for (int k = 0; k < MOST_NAMES; k++) {
-                all[k].become(other.all[k]);
+                all[k].takeFrom(other.all[k]);
             }
             System.arraycopy(other.wasSaying, 0, wasSaying, 0, MOST_DEEDS);
         }
@@ -1038,18 +1020,13 @@ public final class ShadeNames {
             return name.fades ? Shade.faded(name.origin, years + later) : name.origin;
         }
 
-        boolean reaches(int k, int shade, int later) {
+        boolean nameReaches(int k, int shade, int later) {
             return Kind.reaches(all[k].kind, shadeOf(k, later), all[k].range, shade);
         }
 
         int callerOf(int shade, int later) {
-            return callerAhead(size, shade, later);
-        }
-
-        /** The first name that reaches a shade, of those with numbers below the one told. */
-        int callerAhead(int end, int shade, int later) {
-            for (int k = 0; k < end && k < size; k++) {
-                if (reaches(k, shade, later)) {
+            for (int k = 0; k < size; k++) {
+                if (nameReaches(k, shade, later)) {
                     return k;
                 }
             }
@@ -1064,7 +1041,7 @@ public final class ShadeNames {
         int reachersOf(int shade) {
             int reachers = 0;
             for (int k = 0; k < size; k++) {
-                if (reaches(k, shade, 0)) {
+                if (nameReaches(k, shade, 0)) {
                     reachers |= 1 << k;
                 }
             }
@@ -1072,10 +1049,13 @@ public final class ShadeNames {
         }
 
         boolean isDisputed(int shade) {
-            int owner = ownerOf(shade, 0);
+            int owner = NONE;
             for (int k = 0; k < size; k++) {
-                if (all[k].owner != owner && reaches(k, shade, 0)) {
-                    return true;
+                if (nameReaches(k, shade, 0)) {
+                    if (owner != NONE && owner != all[k].owner) {
+                        return true;
+                    }
+                    owner = all[k].owner;
                 }
             }
             return false;
@@ -1083,10 +1063,13 @@ public final class ShadeNames {
 
         int owedBy(int person, int shade) {
             int caller = callerOf(shade, 0);
-            if (caller == NONE || all[caller].owner == person || all[caller].kind == Kind.POETS) {
-                return 0;
-            }
-            return all[caller].dues;
+            return caller == NONE || all[caller].owner == person ? 0 : all[caller].owed();
+        }
+
+        /** By each of the others who says the shade. */
+        int owedTo(int person, int shade) {
+            int caller = callerOf(shade, 0);
+            return caller == NONE || all[caller].owner != person ? 0 : all[caller].owed();
         }
 
         int countCalledBy(int k) {
@@ -1110,7 +1093,7 @@ public final class ShadeNames {
             int own = Shade.partA(shadeOf(k, 0));
             int many = 0;
             for (int shade = 0; shade < Shade.ALL; shade++) {
-                if (Shade.partA(shade) == own && reaches(k, shade, 0)) {
+                if (Shade.partA(shade) == own && nameReaches(k, shade, 0)) {
                     many++;
                 }
             }
@@ -1120,17 +1103,18 @@ public final class ShadeNames {
         int countOthersReached(int k) {
             int many = 0;
             for (int other = 0; other < size; other++) {
-                if (other != k && reaches(k, shadeOf(other, 0), 0)) {
+                if (other != k && nameReaches(k, shadeOf(other, 0), 0)) {
                     many++;
                 }
             }
             return many;
         }
 
+        /** Of the shades that a name reaches, those that are called by one ahead of it. */
         int countReachedBehindOthers(int k) {
             int many = 0;
             for (int shade = 0; shade < Shade.ALL; shade++) {
-                if (callerAhead(k, shade, 0) != NONE && reaches(k, shade, 0)) {
+                if (nameReaches(k, shade, 0) && callerOf(shade, 0) < k) {
                     many++;
                 }
             }

@@ -223,12 +223,16 @@ public final class PromisesTest {
         Runs.fill(x, 0, MIN, MIN);
         due.is("mean(0)", x.mean(0), 1);
         due.is("asked()", x.asked(), MIN);
+        x.row(0, 40);
+        x.lay(0, 39, 79);
+        due.is("of forty", x.mean(0), 1);
+        due.is("asked()", x.asked(), 1);
         x.row(0, 0);
         found(x, "mean of none", x.mean(0), NOUGHT);
         found(x, "mean of a missing row", x.mean(1), NOTHING);
         due.is("mean(6)", x.mean(6), BAD);
         due.is("mean(-1)", x.mean(-1), BAD);
-        due.is("asked()", x.asked(), MIN);
+        due.is("asked()", x.asked(), 1);
     }
 
     private static void text() {
@@ -310,6 +314,9 @@ public final class PromisesTest {
         isFault(eight + "  n0000000", 66);
         isFault(eight + " ?", 65);
         isFault("n0000000 ".repeat(8) + " n", 73);
+        isFault(" ".repeat(80), 80);
+        isFault(" ".repeat(72) + "p0000000", NONE);
+        isFault(" ".repeat(73) + "p000000", 80);
         ShadeNames x = new ShadeNames();
         found(x, "fault of a missing text", x.fault(0), NOTHING);
         due.is("fault(4)", x.fault(4), BAD);
@@ -334,18 +341,22 @@ public final class PromisesTest {
         isName(x, 0, 1, Runs.shade(1, 2, 3), 2, 3, 4, 1);
         isName(x, 1, 5, Runs.shade(5, 4, 1), 9, 2, 9, 0);
         x.year();
+        x.keep(0);
         x.keep(1);
+        x.keep(2);
         Runs.write(x, 3, "n0000000 n");
         due.is("a fault", x.registry(3), STATE);
         due.is("is no finding", x.findings(NOTHING), 1);
         due.is("names stand", x.count(0), 2);
         due.is("deeds stand", x.count(1), 1);
-        due.is("kept ones stand", x.count(8), 1);
+        due.is("kept ones stand", x.count(8), 3);
         due.is("registry(2) anew", x.registry(2), 2);
         isName(x, 0, 1, Runs.shade(1, 2, 3));
         due.is("no deeds", x.count(1), 0);
         due.is("kept ones go", x.count(8), 0);
-        found(x, "on(1)", x.on(1), NOTHING);
+        for (int k = 0; k < 3; k++) {
+            found(x, "on(" + k + ")", x.on(k), NOTHING);
+        }
         Runs.write(x, 0, "n0000000".repeat(8));
         due.is("eight", x.registry(0), 8);
     }
@@ -410,12 +421,39 @@ public final class PromisesTest {
                 }
             }
         }
+        ShadeNames rim = Runs.with("n5001000 p5002000 w0001000");
+        due.is("poets', at the rim", rim.mark(1, 5), 4);
+        due.is("wide, with 000 its own", rim.mark(2, 1), 8);
+        markOfFading();
         ShadeNames first = Runs.with("p0001000 s0000000 d5559000");
         due.is("poets', with none ahead", first.mark(0, 5), 0);
         due.is("poets', of range 1", first.mark(0, 2), 3);
         due.is("sharp, of range 0", first.mark(1, 2), 0);
         due.is("deep, over all", first.mark(2, 4), 2);
         due.is("deep, over all but one", first.mark(2, 1), 215);
+    }
+
+    /** What a year takes to another place is told where it is now. */
+    private static void markOfFading() {
+        ShadeNames x = Runs.with("n0001001 w1001001 s1002001 l1003001 d1000001 p1012001 n2000001");
+        // w100 reaches a 0 to 2, b and c 0 to 1: 12, of which 000, 100, 010, 001 are the first one's
+        due.is("wide, now", x.mark(1, 1), 8);
+        due.is("sharp, now", x.mark(2, 2), ball(1, 0, 0, 2) - ball(1, 0, 0, 1));
+        due.is("light, now", x.mark(3, 3), 10);
+        due.is("deep, now: w100, s100, l100, p101", x.mark(4, 4), 4);
+        // 101 and those 1 apart: 001, 201, 111, 100, 102; l100 reaches 110 and so on, w100 has them but 102
+        due.is("poets', now", x.mark(5, 5), 6);
+        x.year();
+        // w000 has eight; 000, 100, 010, 001 are the first one's
+        due.is("wide, then", x.mark(1, 1), 4);
+        due.is("sharp, then", x.mark(2, 2), ball(0, 0, 0, 2) - ball(0, 0, 0, 1));
+        due.is("light, then", x.mark(3, 3), 10);
+        due.is("deep, then: n000, too", x.mark(4, 4), 5);
+        due.is("poets', then: 001, 000, 002, 011, 101", x.mark(5, 5), 5);
+        x = Runs.with("n1001001 p1002000");
+        due.is("poets', the same as the one ahead", x.mark(1, 5), 5);
+        x.year();
+        due.is("poets', 100 and 000 of the one ahead", x.mark(1, 5), 2);
     }
 
     private static int ball(int a, int b, int c, int range) {
@@ -477,6 +515,13 @@ public final class PromisesTest {
         due.is("forty deeds, not free", x.say(0, 0, 0, 0), STATE);
         due.is("forty deeds", x.say(0, 215, 0, 0), FULL);
         due.is("names", x.count(0), 1);
+        x = Runs.with("n1000000 n2000001");
+        due.is("free a year on, not now", x.say(0, 72, 0, 0), STATE);
+        Runs.write(x, 0, "n1000000");
+        x.registry(0);
+        x.say(0, 72, 0, 0);
+        x.year();
+        isName(x, 1, 0, 72, 0, 0, 1, 0);
     }
 
     private static void year() {
@@ -529,6 +574,12 @@ public final class PromisesTest {
         due.is("deeds", x.count(1), 0);
         due.is("undo(0) of none", x.undo(0), 0);
         due.is("undo(1) of none", x.undo(1), BAD);
+        x.say(0, 215, 0, 1);
+        x.undo(0);
+        x.year();
+        due.is("a year in the place of a saying", x.undo(0), 1);
+        isName(x, 0, 0, 72);
+        due.is("names", x.count(0), 1);
     }
 
     private static void keep() {
@@ -572,6 +623,24 @@ public final class PromisesTest {
         due.is("names", x.count(0), 2);
         due.is("on(1), kept still", x.on(1), 2);
         due.is("names", x.count(0), 3);
+        x.undo(0);
+        x.say(0, Runs.shade(0, 5, 5), 1, 2);
+        x.year();
+        due.is("on(1)", x.on(1), 2);
+        due.is("the year was first", x.undo(1), 1);
+        due.is("names", x.count(0), 2);
+        isName(x, 0, 0, 36, 0, 0, 3, 1);
+        x = Runs.with("n5000001 n5550100");
+        x.keep(0);
+        x.year();
+        x.keep(1);
+        x.year();
+        x.on(0);
+        isName(x, 0, 0, 180);
+        x.on(1);
+        isName(x, 0, 0, 144);
+        x.year();
+        isName(x, 0, 0, 108, 0, 0, 0, 1);
     }
 
     private static void apart() {
@@ -606,6 +675,15 @@ public final class PromisesTest {
         due.is("asked()", x.asked(), 0);
         ShadeNames none = new ShadeNames();
         due.is("called(0), no names", none.called(0), NONE);
+        ShadeNames fading = Runs.with("n2000001 n1000100");
+        due.is("called(72), now", fading.called(72), 0);
+        due.is("asked()", fading.asked(), 1);
+        due.is("called(36), now", fading.called(36), 1);
+        due.is("asked()", fading.asked(), 2);
+        fading.year();
+        due.is("called(72), then", fading.called(72), NONE);
+        due.is("called(36), then", fading.called(36), 0);
+        due.is("asked()", fading.asked(), 3);
     }
 
     private static void owes() {
@@ -617,6 +695,12 @@ public final class PromisesTest {
             due.is("555", x.owes(person, 215), person == 1 ? 0 : 9);
             due.is("free", x.owes(person, 100), 0);
         }
+        ShadeNames fading = Runs.with("n2000051 n1000170");
+        due.is("now", fading.owes(3, 72), 5);
+        due.is("now", fading.owes(3, 36), 7);
+        fading.year();
+        due.is("then", fading.owes(3, 72), 0);
+        due.is("then", fading.owes(3, 36), 5);
         due.is("owes(4, 0)", x.owes(4, 0), BAD);
         due.is("owes(-1, 0)", x.owes(-1, 0), BAD);
         due.is("owes(0, 216)", x.owes(0, 216), BAD);
@@ -636,6 +720,21 @@ public final class PromisesTest {
         due.is("a poets' one, too", x.disputed(), 215);
         due.is("asked()", x.asked(), 1);
         due.is("no names", new ShadeNames().disputed(), NONE);
+        x = Runs.with("n2000051 n1000170 n3000270 n3000101");
+        due.is("now", x.disputed(), 108);
+        due.is("asked()", x.asked(), 1);
+        x.year();
+        due.is("then", x.disputed(), 36);
+        due.is("asked()", x.asked(), 1);
+        x = Runs.with("n0001000");
+        x.say(0, 2, 1, 1);
+        due.is("with one that is said", x.disputed(), 1);
+        x.undo(0);
+        due.is("without it", x.disputed(), NONE);
+        x = Runs.with("n2000051 n1000170");
+        due.is("not yet", x.disputed(), NONE);
+        x.year();
+        due.is("then", x.disputed(), 36);
     }
 
     private static void free() {
@@ -646,6 +745,10 @@ public final class PromisesTest {
         x = Runs.with("d0000000 n0100000");
         due.is("free()", x.free(), 7);
         due.is("asked()", x.asked(), 209);
+        x = Runs.with("n1000001");
+        due.is("now", x.free(), 0);
+        x.year();
+        due.is("then", x.free(), 1);
         x = Runs.with("n0009000 w0009000");
         due.is("none", x.free(), NONE);
         due.is("asked()", x.asked(), 0);
@@ -677,6 +780,13 @@ public final class PromisesTest {
         due.is("gap(0, -1)", x.gap(0, -1), BAD);
         due.is("asked()", x.asked(), 66);
         due.is("no names", new ShadeNames().gap(1, 9), 0);
+        x = Runs.with("n0000000");
+        due.is("clear of 000", x.gap(0, 1), 2);
+        due.is("asked()", x.asked(), 212);
+        x = Runs.with("n1000001");
+        due.is("now", x.gap(0, 0), 0);
+        x.year();
+        due.is("then", x.gap(0, 0), 1);
     }
 
     private static void lives() {
@@ -686,6 +796,11 @@ public final class PromisesTest {
         due.is("lives(1, 0)", x.lives(1, 0), 27);
         due.is("lives(2, 0)", x.lives(2, 0), 21);
         due.is("lives(0, 0)", x.lives(0, 0), 0);
+        ShadeNames fading = Runs.with("n1000051");
+        Runs.fill(fading, 0, 36, 0, 0);
+        due.is("now", fading.lives(0, 0), 15);
+        fading.year();
+        due.is("then", fading.lives(0, 0), 30);
         x.row(1, 40);
         due.is("forty places", x.lives(1, 1), 360);
         x.row(1, 0);
@@ -735,6 +850,8 @@ public final class PromisesTest {
         x.row(0, 0);
         due.is("none", x.cover(0, 9), 0);
         due.is("range 10", x.cover(0, 10), BAD);
+        Runs.fill(x, 0, 5);
+        due.is("one", x.cover(0, 0), 1);
         Runs.fill(x, 0, 7, 7, 7, 7, 7, 7);
         due.is("one six times", x.cover(0, 0), 1);
         Runs.fill(x, 0, 0, 2, 12, 72, 100, 215);
@@ -746,10 +863,10 @@ public final class PromisesTest {
         // 002 reaches three, 042 the other three; the name between, 022, reaches two alone
         Runs.fill(x, 0, 0, 2, 4, 24, 26, 28);
         due.is("two threes", x.cover(0, 2), 2);
-        // 022 reaches most, four, but leaves two for two names more
-        Runs.fill(x, 0, Runs.shade(0, 0, 2), Runs.shade(0, 1, 1), Runs.shade(0, 1, 3),
-                Runs.shade(0, 3, 1), Runs.shade(0, 3, 3), Runs.shade(0, 4, 2));
-        due.is("six about 022", x.cover(0, 2), 1);
+        // every name that reaches most, four of these, leaves two that no one name reaches
+        Runs.fill(x, 0, Runs.shade(0, 5, 0), Runs.shade(0, 2, 2), Runs.shade(0, 4, 2),
+                Runs.shade(1, 0, 3), Runs.shade(0, 1, 2), Runs.shade(0, 2, 1));
+        due.is("the greediest is not in it", x.cover(0, 2), 2);
     }
 
     private static void best() {
@@ -796,6 +913,8 @@ public final class PromisesTest {
         Runs.fill(x, 0, Runs.shade(0, 0, 0), Runs.shade(4, 0, 0), Runs.shade(0, 4, 0), Runs.shade(0, 0, 4));
         due.is("of four", x.mix(0, Runs.shade(1, 1, 1)), 3);
         due.is("not by three", x.mix(0, Runs.shade(3, 1, 1)), NONE);
+        Runs.fill(x, 0, Runs.shade(4, 3, 0), Runs.shade(1, 0, 2));
+        due.is("only by four", x.mix(0, Runs.shade(1, 0, 0)), NONE);
         due.is("not told by asked()", x.asked(), 0);
     }
 
@@ -863,6 +982,10 @@ public final class PromisesTest {
         found(x, "216", x.eyes(0), UNLIKE);
         Runs.fill(x, 0, 0, -1, 1);
         found(x, "-1", x.eyes(0), UNLIKE);
+        Runs.fill(x, 0, -1, 0, 1);
+        found(x, "-1 first", x.eyes(0), UNLIKE);
+        Runs.fill(x, 0, 0, 0, 1, 0, 0, 2);
+        found(x, "2 last", x.eyes(0), UNLIKE);
         x.row(0, 39);
         due.is("thirteen threes", x.eyes(0), 0);
     }
@@ -962,6 +1085,8 @@ public final class PromisesTest {
         due.is("100 back to 1, 000 to 0", x.moves(1), 2);
         due.is("no names", new ShadeNames().moves(3), 0);
         due.is("of the same owner", Runs.with("n1000001 n1000000 n0000000").moves(1), 0);
+        // 510 and 501 go, 300, 410 and 401 come
+        due.is("at the rim", Runs.with("n5001001").moves(1), 5);
     }
 
     private static void was() {
@@ -1036,6 +1161,12 @@ public final class PromisesTest {
         x = Runs.with("p5551200");
         due.is("a poets' one is one's, too", x.odds(2), 1);
         isChance(x, 1, 216);
+        x = Runs.with("n1001201");
+        x.odds(2);
+        isChance(x, 5, 216);
+        x.year();
+        x.odds(2);
+        isChance(x, 1, 54);
     }
 
     private static void mid() {

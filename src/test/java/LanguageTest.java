@@ -1,0 +1,102 @@
+import java.nio.charset.StandardCharsets;
+import java.nio.file.Files;
+import java.nio.file.Path;
+import java.util.ArrayList;
+import java.util.List;
+import java.util.Map;
+import java.util.Set;
+import java.util.TreeMap;
+import java.util.TreeSet;
+import java.util.regex.Matcher;
+import java.util.regex.Pattern;
+
+/** What can be read off the source of the rules in LANGUAGE.md; run in the project's folder. */
+public final class LanguageTest {
+    private static final Due due = new Due("language");
+    private static final String[] RULED_OUT = {"throw", "throws", "try", "catch", "finally", "synchronized", "assert",
+        "import", "package", "double", "float", "volatile", "native", "transient", "Object", "System.out", "Random",
+        "Thread", "hashCode", "toString", "yield", "var", "while (true", "for (;;", "->", "::", "Exact("};
+    private static final int MOST_DEEP = 8;
+    private static final Pattern CALL = Pattern.compile("\\b(\\w+)\\(");
+    private static final Pattern METHOD = Pattern.compile(
+            "^ +(?:(?:public|private|static|final) )*(\\w+(?:\\[\\])* )?(\\w+)\\(([^()]*)\\) \\{$");
+
+    /** What each method calls, by name; methods of one name in several classes are taken together. */
+    private static final Map<String, Set<String>> calls = new TreeMap<>();
+
+    public static void main(String[] args) throws Exception {
+        byte[] bytes = Files.readAllBytes(Path.of("src/main/java/ShadeNames.java"));
+        due.part("signs");
+        for (byte sign : bytes) {
+            due.holds("sign " + sign, sign == '\n' || sign >= 32);
+        }
+        String source = new String(bytes, StandardCharsets.US_ASCII);
+        String code = source.replaceAll("(?s)/\\*.*?\\*/", "").replaceAll("//[^\n]*", "").replaceAll("\"[^\"\n]*\"", "\"\"");
+        due.part("words");
+        for (String word : RULED_OUT) {
+            boolean plain = word.matches("\\w+");
+            Matcher found = Pattern.compile(plain ? "\\b" + word + "\\b" : Pattern.quote(word)).matcher(code);
+            due.holds("no " + word, !found.find());
+        }
+        methods(code.split("\n"));
+        due.part("depth");
+        for (String method : calls.keySet()) {
+            int depth = depthOf(method, new ArrayList<>());
+            due.holds(method + " goes " + depth + " deep", depth <= MOST_DEEP);
+        }
+        due.end();
+    }
+
+    private static void methods(String[] lines) {
+        due.part("methods");
+        int seen = 0;
+        for (int i = 0; i < lines.length; i++) {
+            Matcher head = METHOD.matcher(lines[i]);
+            if (!head.matches() || head.group(2).matches("if|for|while|switch")) {
+                continue;
+            }
+            seen++;
+            String indent = lines[i].substring(0, lines[i].length() - lines[i].stripLeading().length());
+            List<String> body = new ArrayList<>();
+            int end = i + 1;
+            while (end < lines.length && !lines[end].equals(indent + "}")) {
+                body.add(lines[end]);
+                end++;
+            }
+            due.holds(head.group(2) + " is short", body.size() <= 60);
+            due.holds(head.group(2) + " takes seven at most", head.group(3).split(",").length <= 7);
+            Set<String> called = calls.computeIfAbsent(head.group(2), name -> new TreeSet<>());
+            Matcher call = CALL.matcher(String.join("\n", body));
+            while (call.find()) {
+                called.add(call.group(1));
+            }
+            boolean constructor = head.group(1) == null || Character.isUpperCase(head.group(2).charAt(0));
+            if (!constructor) {
+                for (String line : body) {
+                    due.holds(head.group(2) + " makes no object", !line.matches(".*\\bnew\\b.*"));
+                }
+            }
+        }
+        due.holds("methods are found", seen > 90);
+    }
+
+    /** How many calls stand open at most, the library's too; a method that calls itself counts once. */
+    private static int depthOf(String method, List<String> open) {
+        if (!calls.containsKey(method)) {
+            return 1;
+        }
+        List<String> now = new ArrayList<>(open);
+        now.add(method);
+        int deepest = 0;
+        for (String called : calls.get(method)) {
+            if (called.equals(method) || called.matches("if|for|while|switch|return")) {
+                continue;
+            }
+            due.holds(method + " comes back to " + called, !now.contains(called));
+            if (!now.contains(called)) {
+                deepest = Math.max(deepest, depthOf(called, now));
+            }
+        }
+        return 1 + deepest;
+    }
+}
