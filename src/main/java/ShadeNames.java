@@ -965,7 +965,9 @@ public final class ShadeNames {
             for (int k = 0; k < MOST_NAMES; k++) {
                 all[k].takeFrom(other.all[k]);
             }
-            System.arraycopy(other.wasSaying, 0, wasSaying, 0, MOST_DEEDS);
+            for (int i = 0; i < MOST_DEEDS; i++) {
+                wasSaying[i] = other.wasSaying[i];
+            }
         }
 
         /** The next name; the caller has tested that there is room. */
@@ -1276,7 +1278,7 @@ public final class ShadeNames {
         void writeInto(Registry registry) {
             registry.begin();
             int i = 0;
-            while (i < size) {
+            while (i + ITEM <= size && registry.size < Registry.MOST_NAMES) {
                 if (signs[i] == BLANK) {
                     i++;
                     continue;
