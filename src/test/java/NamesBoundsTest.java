@@ -24,6 +24,7 @@ public final class NamesBoundsTest {
         duesOfOthersStay();
         keeping();
         goingOn();
+        goingOnPastOthers();
         due.end();
     }
 
@@ -416,5 +417,38 @@ public final class NamesBoundsTest {
         due.is("rows are no part of it", x.row(0, 2), 2);
         due.is("on(2)", x.on(2), 2);
         due.is("rows stand", x.count(6), 1);
+    }
+
+    /** A place that held another name, another deed, another registry is wholly the new one's. */
+    private static void goingOnPastOthers() {
+        due.part("15 .. 19, where something else was before");
+        ShadeNames x = Runs.with("n0000091 n0010391");
+        x.undo(0);
+        Runs.write(x, 0, "n0000090");
+        x.registry(0);
+        due.is("said where one stood that fades", x.say(0, 215, 0, 0), 1);
+        isName("it does not fade", x, 1, 0, 215, 0, 0, 1, 0, 1);
+        due.is("a year", x.year(), 0);
+        x.undo(0);
+        x.say(4, 180, 1, 2);
+        x.keep(0);
+        x.undo(0);
+        x.say(5, 30, 3, 1);
+        x.keep(1);
+        due.is("on(0)", x.on(0), 1);
+        isName("the first", x, 1, 4, 180, 1, 2, 1, 0, 24);
+        due.is("on(1)", x.on(1), 1);
+        isName("the other", x, 1, 5, 30, 3, 1, 1, 0, 10);
+        x.undo(0);
+        x.year();
+        x.keep(0);
+        due.is("a year in the place of a saying", x.undo(0), 1);
+        due.is("names", x.count(0), 1);
+        due.is("on(0)", x.on(0), 1);
+        due.is("undone once more", x.undo(0), 1);
+        due.is("names", x.count(0), 1);
+        x.say(0, 1, 0, 0);
+        due.is("a saying in the place of a year", x.undo(0), 1);
+        due.is("names", x.count(0), 1);
     }
 }

@@ -255,6 +255,15 @@ public final class ShadesBoundsTest {
         isCover(3, 3, corners);
         isCover(1, 9, corners);
         isCover(2, 1, 0, 2, 2, 0, 5, 5);
+        due.part("27 cover, nothing is left of the one ahead");
+        ShadeNames x = row(0, 1, 2, 3, 4, 5);
+        due.is("by 9", x.cover(5, 9), 1);
+        due.is("by 0", x.cover(5, 0), 6);
+        Runs.fill(x, 5, 0, 215);
+        due.is("two by 0", x.cover(5, 0), 2);
+        due.is("two by 9", x.cover(5, 9), 1);
+        x.row(5, 0);
+        due.is("none", x.cover(5, 9), 0);
     }
 
     private static void isBest(int shade, int many, int range, int... places) {

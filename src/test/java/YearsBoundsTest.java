@@ -84,6 +84,10 @@ public final class YearsBoundsTest {
 
     private static void movesOfAll() {
         due.part("35 moves, of many");
+        // 200, 110, 101 go, 010, 001 come; there is nothing below a part of 0
+        due.is("at the corner 000", Runs.with("n1001001").moves(1), 5);
+        // 545, 554 go, 355, 445, 454 come; there is nothing above a part of 5
+        due.is("at the corner 555", Runs.with("n5551001").moves(1), 5);
         ShadeNames x = Runs.with("d1220001 w0009100");
         due.is("six of 12. to the other, six of 02. from it", x.moves(1), 12);
         // it reaches b and c of 1 to 5, 25 shades for each a: a of 1 to 5, then all, then 0 to 4
