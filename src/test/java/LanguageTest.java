@@ -16,6 +16,13 @@ public final class LanguageTest {
     private static final String[] RULED_OUT = {"throw", "throws", "try", "catch", "finally", "synchronized", "assert",
         "import", "package", "double", "float", "volatile", "native", "transient", "Object", "System.out", "Random",
         "Thread", "hashCode", "toString", "yield", "var", "while (true", "for (;;", "->", "::", "Exact("};
+    /** Of all that rule 4 lists, what the class uses. */
+    private static final Set<String> LIBRARY = Set.of("String", "System", "Integer", "Math");
+    private static final Set<String> LIBRARY_CALLS = Set.of("System.arraycopy", "Integer.bitCount", "Math.abs",
+        "Math.max", "Math.min", "LETTERS.length", "LETTERS.charAt");
+    private static final Pattern CLASS_INSIDE = Pattern.compile("\\b(?:class|record|enum|interface) (\\w+)");
+    private static final Pattern TYPE = Pattern.compile("\\b[A-Z]+[a-z]\\w*");
+    private static final Pattern QUALIFIED = Pattern.compile("\\b([A-Z]\\w*)\\.\\w+(?=\\()");
     private static final int MOST_DEEP = 8;
     private static final Pattern CALL = Pattern.compile("\\b(\\w+)\\(");
     private static final Pattern METHOD = Pattern.compile(
@@ -38,6 +45,7 @@ public final class LanguageTest {
             Matcher found = Pattern.compile(plain ? "\\b" + word + "\\b" : Pattern.quote(word)).matcher(code);
             due.holds("no " + word, !found.find());
         }
+        library(code);
         methods(code.split("\n"));
         due.part("depth");
         for (String method : calls.keySet()) {
@@ -45,6 +53,24 @@ public final class LanguageTest {
             due.holds(method + " goes " + depth + " deep", depth <= MOST_DEEP);
         }
         due.end();
+    }
+
+    private static void library(String code) {
+        due.part("library");
+        Set<String> own = new TreeSet<>();
+        Matcher inside = CLASS_INSIDE.matcher(code);
+        while (inside.find()) {
+            own.add(inside.group(1));
+        }
+        due.holds("some twelve classes, not " + own, own.size() > 1 && own.size() <= 12);
+        Matcher type = TYPE.matcher(code);
+        while (type.find()) {
+            due.holds("no " + type.group(), own.contains(type.group()) || LIBRARY.contains(type.group()));
+        }
+        Matcher call = QUALIFIED.matcher(code);
+        while (call.find()) {
+            due.holds("no " + call.group(), own.contains(call.group(1)) || LIBRARY_CALLS.contains(call.group()));
+        }
     }
 
     private static void methods(String[] lines) {
